@@ -53,6 +53,7 @@ public final class PromisesTest {
         meet();
         cut();
         reach();
+        theLongest();
         reading();
         back();
         steps();
@@ -424,6 +425,28 @@ public final class PromisesTest {
         due(12, "hour 12", round.reach(12), OUTSIDE);
         due(12, "hour -1", round.reach(-1), OUTSIDE);
         due(12, "no house", new HourDoors().reach(12), STATE);
+    }
+
+    /** From 3 to 2 at any hour, from 2 to 1 at 3 alone, from 1 to 4 at 3 alone: 25 hours from 3 at 3. */
+    private static void theLongest() {
+        HourDoors x = houseOf("d5;l320;c114;c234");
+        due(8, "24 hours", x.soonest(3, 4, 4, -1), 24);
+        due(8, "the last act of 24", x.soonest(3, 4, 4, 23), 1);
+        due(8, "25 hours", x.soonest(3, 4, 3, -1), NONE);
+        due(8, "25 hours, act 0", x.soonest(3, 4, 3, 0), NONE);
+        due(9, "24 hours", x.errands(3, 30, 4), 24);
+        due(9, "25 hours", x.errands(3, 16, 3), NONE);
+        due(10, "24 hours", x.meet(3, 4, 4), 24);
+        due(10, "25 hours", x.meet(4, 3, 3), NONE);
+        due(11, "24 hours", x.cut(3, 4, 4), 0);
+        due(11, "25 hours", x.cut(3, 4, 3), NONE);
+        due(12, "24 hours", x.reach(4), 2 | 4 | 8);
+        due(12, "25 hours", x.reach(3), 2 | 4);
+        share(x, 3, 4, 24, 11, 12);
+        share(x, 3, 4, 23, 5, 6);
+        HourDoors both = houseOf("d5;l320;c114;c234;p340");
+        due(11, "24 hours without 3", both.cut(3, 4, 4), NONE);
+        due(11, "25 hours without 3", both.cut(3, 4, 3), 3);
     }
 
     private static void reading() {
