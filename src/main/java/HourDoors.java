@@ -39,7 +39,7 @@ public final class HourDoors {
     private final Sheet[] sheets;
     private int left;
     private int latestFault;
-    /** At t: the rooms from which, t hours on, one still comes in time. */
+    /** At t, from 1 on: the rooms from which, t hours on, one still comes in time. */
     private final int[] hopeful;
     /** Of each room: the sets of rooms that one who is there can have seen. */
     private final long[] seen;
@@ -483,7 +483,7 @@ public final class HourDoors {
 
     private void fillHopeful(int to, int hour, int hours) {
         hopeful[hours] = 1 << to;
-        for (int t = hours - 1; t >= 0; t--) {
+        for (int t = hours - 1; t > 0; t--) {
             hopeful[t] = anHourAhead(hopeful[t + 1], (hour + t) % HOURS);
         }
     }

@@ -54,6 +54,8 @@ public final class PromisesTest {
         cut();
         reach();
         theLongest();
+        roundTheClock();
+        behindALargerHouse();
         reading();
         back();
         steps();
@@ -283,6 +285,7 @@ public final class PromisesTest {
     private static void walkRefusals() {
         HourDoors x = houseOf("d3;p011;l121;c200");
         row(x, 0, 0, 0, 0, 4, -1, 3);
+        due(7, "a cell behind them is no act", x.walk(0, 0, 0, 0, 0, 2, 1), 1);
         due(7, "a later cell is no act", x.walk(0, 0, 0, 0, 0, 3, 1), OUTSIDE);
         due(7, "-1 is no act", x.walk(0, 0, 0, 0, 3, 1, 0), OUTSIDE);
         due(7, "fault", x.fault(), 0);
@@ -326,6 +329,9 @@ public final class PromisesTest {
         acts(x, 0, 3, 0, 1, 2);
         acts(x, 0, 3, 2, 0, 3);
         acts(x, 0, 0, 5);
+        // the first of two doors that lead on, and of two rooms from which one comes there
+        acts(houseOf("d4;p010;p020;p130;p230"), 0, 3, 7, 0, 2);
+        acts(houseOf("d4;p230;p130;p010;p020"), 0, 3, 7, 2, 1);
         acts(x, 2, 3, 1, 4, 4, 3);
         acts(x, 2, 3, 9, 3);
         due(8, "by none", x.soonest(3, 0, 0, -1), NONE);
@@ -364,6 +370,7 @@ public final class PromisesTest {
         due(9, "set low", x.errands(0, LOW, 0), OUTSIDE);
         due(9, "hour 12", x.errands(0, 0, 12), OUTSIDE);
         due(9, "hour -1", x.errands(0, 0, -1), OUTSIDE);
+        due(9, "back in 0", houseOf("d2;p100;p010").errands(1, 3, 0), 1);
         HourDoors six = houseOf("d6;p010;p120;p230;p340;p450;p500");
         due(9, "six rooms round", six.errands(3, 63, 4), 5);
         due(9, "all but the last", six.errands(3, 59, 4), 4);
@@ -447,6 +454,35 @@ public final class PromisesTest {
         HourDoors both = houseOf("d5;l320;c114;c234;p340");
         due(11, "24 hours without 3", both.cut(3, 4, 4), NONE);
         due(11, "25 hours without 3", both.cut(3, 4, 3), 3);
+    }
+
+    /** Of five rooms a plain door leads elsewhere at 0 than it would at a twelfth hour. */
+    private static void roundTheClock() {
+        HourDoors x = houseOf("d5;p001");
+        row(x, 0, 0, 1, 0);
+        due(7, "at 0 it leads to 0", x.walk(0, 11, 0, 0, 0, 2, 0), 0);
+        acts(x, 0, 2, 11, 1, 0, 1, 0);
+        due(9, "2 at 2", x.errands(0, 4, 11), 4);
+        due(10, "2 at 2", x.meet(0, 2, 11), 4);
+        due(10, "2 at 2", x.meet(2, 0, 11), 4);
+        // from 4 at 4: 0 at 7, 1 at 10, 3 at 10 again, from where one goes to 2 at 4: 25 hours
+        HourDoors far = houseOf("d5;c400;c015;c114;p342");
+        due(12, "25 hours", far.reach(4), 1 | 2 | 8);
+        due(12, "13 hours", houseOf("d5;c312;c414;c210").reach(3), 16);
+    }
+
+    private static void behindALargerHouse() {
+        HourDoors x = houseOf("d6;p010;p120;p230;p340;p450;p500;p020;p030");
+        take(x, "d4;p010");
+        due(8, "no way", x.soonest(1, 2, 0, -1), NONE);
+        due(8, "one way", x.soonest(0, 1, 0, 0), 0);
+        due(9, "no way", x.errands(0, 6, 0), NONE);
+        due(10, "no way", x.meet(1, 2, 0), NONE);
+        due(11, "one door", x.cut(0, 1, 0), 0);
+        due(12, "none", x.reach(0), 0);
+        due(18, "no way", x.odds(1, 2, 24, 0), 0);
+        take(x, "d2;p100;p010");
+        due(12, "two rooms", x.reach(0), 3);
     }
 
     private static void reading() {
