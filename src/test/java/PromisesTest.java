@@ -483,6 +483,10 @@ public final class PromisesTest {
         due(18, "no way", x.odds(1, 2, 24, 0), 0);
         take(x, "d2;p100;p010");
         due(12, "two rooms", x.reach(0), 3);
+        take(x, "d3;p010;c020;p120");
+        acts(x, 0, 2, 2, 0, 2);
+        take(x, "d3;p010;c020");
+        acts(x, 0, 2, 2, 2, 1);
     }
 
     private static void reading() {
