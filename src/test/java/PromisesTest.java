@@ -1,42 +1,5 @@
 /** For each promise of the document: ordinary calls, the edges that it names, wrong ones. */
-public final class PromisesTest {
-    private static final int UNKNOWN = -1, OUTSIDE = -2, STATE = -3, FULL = -4, NONE = -9;
-    private static final int NULL = -11, CAST = -12, INDEX = -13, SIZE = -14;
-    private static final long LOST = Long.MIN_VALUE;
-    private static final int LOW = Integer.MIN_VALUE, HIGH = Integer.MAX_VALUE;
-
-    private static int wrong = 0;
-    private static int asked = 0;
-
-    private static void due(int promise, String call, long got, long want) {
-        asked++;
-        if (got == want) return;
-        wrong++;
-        System.out.println("promise " + promise + ": " + call + " answered " + got + ", due is " + want);
-    }
-
-    /** Writes a text on a sheet from a place on, and zeros ahead of and behind it. */
-    private static void write(HourDoors x, int k, int lane, int ahead, String text, int behind) {
-        x.sheet(k, lane, ahead + text.length() + behind);
-        for (int i = 0; i < text.length(); i++) x.put(k, ahead + i, text.charAt(i));
-    }
-
-    private static int take(HourDoors x, String text) {
-        write(x, 3, 2, 0, text, 0);
-        return x.house(3, 2, 0, text.length());
-    }
-
-    private static HourDoors houseOf(String text) {
-        HourDoors x = new HourDoors();
-        take(x, text);
-        return x;
-    }
-
-    private static void row(HourDoors x, int k, int lane, int... cells) {
-        x.sheet(k, lane, cells.length);
-        for (int i = 0; i < cells.length; i++) x.put(k, i, cells[i]);
-    }
-
+public final class PromisesTest extends TestKit {
     public static void main(String[] args) {
         constants();
         aNewObject();
@@ -73,8 +36,7 @@ public final class PromisesTest {
         trace();
         fault();
         many();
-        System.out.println(asked + " calls asked, " + wrong + " not as due");
-        if (wrong != 0) System.exit(1);
+        end();
     }
 
     private static void constants() {
@@ -742,12 +704,6 @@ public final class PromisesTest {
         x.sheet(2, 1, 1);
         due(23, "of a lane like it now", x.copy(0, 4, 2, 0, 1), 1);
         holds(23, x, 2, 1, 4);
-    }
-
-    private static int traceOf(int... bodies) {
-        int trace = 0;
-        for (int body : bodies) trace = 31 * trace + body;
-        return trace;
     }
 
     private static void tell() {
