@@ -242,6 +242,18 @@ public final class HouseEdgesTest extends EdgeKit {
         due("no third room", x.soonest(2, 2, 0, -1), UNKNOWN);
         due("more of both", take(x, "d5;p040;p410"), 2);
         due("the fifth room", x.soonest(4, 1, 0, -1), 1);
+        HourDoors fewer = houseOf("d6;p010;p120;p230;p340;p450;p500;p020;p030");
+        due("a door for eight", take(fewer, "d4;p010"), 1);
+        due("none leads on any more: soonest", fewer.soonest(1, 2, 0, -1), NONE);
+        due("errands", fewer.errands(0, 6, 0), NONE);
+        due("meet", fewer.meet(1, 2, 0), NONE);
+        due("cut", fewer.cut(0, 1, 0), 0);
+        due("reach", fewer.reach(0), 0);
+        due("odds", fewer.odds(1, 2, 24, 0), 0);
+        due("a door for one that leads there", take(fewer, "d3;p010;c020;p120"), 3);
+        due("by it", fewer.soonest(0, 2, 2, 0), 0);
+        due("without it", take(fewer, "d3;p010;c020"), 2);
+        due("one stays, as it leads there no more", fewer.soonest(0, 2, 2, 0), 2);
     }
 
     // ---- promise 2: the call

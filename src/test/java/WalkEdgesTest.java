@@ -11,6 +11,7 @@ public final class WalkEdgesTest extends EdgeKit {
         hoursGoRound();
         doorsOfTheRoomAlone();
         staying();
+        allEightDoors();
         firstWrong();
         walkOfNone();
         walkOfForty();
@@ -79,6 +80,9 @@ public final class WalkEdgesTest extends EdgeKit {
         due("soonest", x.soonest(0, 2, 10, -1), 5);
         due("errands", x.errands(0, 4, 10), 5);
         due("meet", x.meet(2, 0, 10), 5);
+        // from 4 at 4: in 0 at 7, in 1 at 10, in 3 at 10 again, in 2 at 5: 25 hours; at 5: 24
+        HourDoors far = houseOf("d5;c400;c015;c114;p342");
+        for (int hour = 0; hour < 12; hour++) due("reach at " + hour, far.reach(hour), hour == 4 ? 11 : 27);
         for (int hour = 0; hour < 12; hour++) {
             HourDoors stays = withActs("d2;p000", new int[40]);
             due("40 hours from " + hour, stays.walk(0, hour, 0, 2, 0, 40, 3), (hour + 40) % 12);
@@ -115,6 +119,24 @@ public final class WalkEdgesTest extends EdgeKit {
             row(x, 0, 2, doors + 1);
             due("one more is no act", x.walk(0, 0, 0, 2, 0, 1, 0), OUTSIDE);
         }
+    }
+
+    private static void allEightDoors() {
+        on(7, "then 1 to 8 DOORS");
+        HourDoors x = withActs("d6;p010;p120;p230;p340;p450;p500;p030;c050", 7, 5, 6, 8);
+        walks(x, 0, 3, 4, 3, NONE, 41, 7, 3);
+        acts(x, 0, 5, 0, 7);
+        acts(x, 0, 5, 1, 6, 3, 4);
+        acts(x, 0, 4, 1, 6, 3);
+        acts(houseOf("d6;p010;p120;p230;p340;p450;p500;p330;c050"), 0, 5, 2, 8, 7);
+        due("errands", x.errands(0, 63, 1), 5);
+        due("errands", x.errands(0, 32, 0), 1);
+        due("meet", x.meet(1, 4, 1), 3);
+        due("meet", x.meet(0, 5, 0), 1);
+        due("cut: 3, 4 and 5 are gone by", x.cut(3, 0, 0), 3);
+        due("cut: without 7 one comes there by 4", x.cut(0, 5, 0), NONE);
+        due("reach", x.reach(0), 63);
+        due("odds: by the cupboard", x.odds(0, 5, 1, 1), 3);
     }
 
     private static void firstWrong() {
@@ -286,6 +308,30 @@ public final class WalkEdgesTest extends EdgeKit {
         faults("index, no act", INDEX, x -> x.walk(0, 0, 1, 1, 3, 3, 0));
     }
 
+    // ---- two rooms and an hour
+
+    /** A call of two rooms and an hour. */
+    private interface OfRooms {
+        int of(HourDoors x, int a, int b, int hour);
+    }
+
+    private static void unknownRooms(OfRooms call) {
+        for (int room : beside(0, 3)) {
+            refuses("the first " + room, UNKNOWN, x -> call.of(x, room, 0, 0));
+            refuses("the second " + room, UNKNOWN, x -> call.of(x, 0, room, 0));
+            refuses("both " + room, UNKNOWN, x -> call.of(x, room, room, 0));
+            refuses("the first " + room + ", hour", UNKNOWN, x -> call.of(x, room, 0, 12));
+            refuses("the second " + room + ", hour", UNKNOWN, x -> call.of(x, 0, room, -1));
+        }
+    }
+
+    private static void outsideHours(OfRooms call) {
+        for (int hour : beside(0, 11)) {
+            refuses("hour " + hour, OUTSIDE, x -> call.of(x, 0, 1, hour));
+            refuses("hour " + hour + " in one room", OUTSIDE, x -> call.of(x, 0, 0, hour));
+        }
+    }
+
     // ---- promise 8
 
     private static void acts(HourDoors x, int from, int to, int hour, int... acts) {
@@ -357,20 +403,20 @@ public final class WalkEdgesTest extends EdgeKit {
 
     private static void soonestUnknown() {
         on(8, "UNKNOWN: ROOMS");
+        unknownRooms((x, from, to, hour) -> x.soonest(from, to, hour, -1));
         for (int room : beside(0, 3)) {
-            refuses("from " + room, UNKNOWN, x -> x.soonest(room, 0, 0, -1));
-            refuses("to " + room, UNKNOWN, x -> x.soonest(0, room, 0, -1));
-            refuses("both " + room, UNKNOWN, x -> x.soonest(room, room, 0, -1));
-            refuses("from " + room + ", hour, k", UNKNOWN, x -> x.soonest(room, 0, 12, 24));
-            refuses("to " + room + ", hour, k", UNKNOWN, x -> x.soonest(0, room, -1, -2));
+            refuses("from " + room + ", k", UNKNOWN, x -> x.soonest(room, 0, 0, 24));
+            refuses("to " + room + ", k", UNKNOWN, x -> x.soonest(0, room, 0, -2));
         }
     }
 
     private static void soonestOutside() {
         on(8, "OUTSIDE: hour (0 .. 11), k.");
-        for (int hour : beside(0, 11)) refuses("hour " + hour, OUTSIDE, x -> x.soonest(0, 0, hour, -1));
-        for (int k : beside(-1, 23)) refuses("k " + k, OUTSIDE, x -> x.soonest(0, 0, 0, k));
-        for (int k : beside(-1, 23)) refuses("k " + k + " of none", OUTSIDE, x -> x.soonest(3, 0, 0, k));
+        outsideHours((x, from, to, hour) -> x.soonest(from, to, hour, -1));
+        for (int k : beside(-1, 23)) {
+            refuses("k " + k, OUTSIDE, x -> x.soonest(0, 0, 0, k));
+            refuses("k " + k + " of none", OUTSIDE, x -> x.soonest(3, 0, 0, k));
+        }
         due("hour 0", furnished().soonest(0, 1, 0, -1), 1);
         due("hour 11", furnished().soonest(0, 0, 11, -1), 0);
     }
@@ -459,21 +505,12 @@ public final class WalkEdgesTest extends EdgeKit {
 
     private static void meetUnknown() {
         on(10, "UNKNOWN: ROOMS");
-        for (int room : beside(0, 3)) {
-            refuses("a " + room, UNKNOWN, x -> x.meet(room, 0, 0));
-            refuses("b " + room, UNKNOWN, x -> x.meet(0, room, 0));
-            refuses("both " + room, UNKNOWN, x -> x.meet(room, room, 0));
-            refuses("a " + room + ", hour", UNKNOWN, x -> x.meet(room, 0, 12));
-            refuses("b " + room + ", hour", UNKNOWN, x -> x.meet(0, room, -1));
-        }
+        unknownRooms(HourDoors::meet);
     }
 
     private static void meetOutside() {
         on(10, "OUTSIDE: hour (0 .. 11).");
-        for (int hour : beside(0, 11)) {
-            refuses("hour " + hour, OUTSIDE, x -> x.meet(0, 1, hour));
-            refuses("hour " + hour + " in one room", OUTSIDE, x -> x.meet(0, 0, hour));
-        }
+        outsideHours(HourDoors::meet);
         due("hour 11", furnished().meet(0, 0, 11), 0);
     }
 
@@ -512,21 +549,12 @@ public final class WalkEdgesTest extends EdgeKit {
 
     private static void cutUnknown() {
         on(11, "UNKNOWN: ROOMS");
-        for (int room : beside(0, 3)) {
-            refuses("from " + room, UNKNOWN, x -> x.cut(room, 0, 0));
-            refuses("to " + room, UNKNOWN, x -> x.cut(0, room, 0));
-            refuses("both " + room, UNKNOWN, x -> x.cut(room, room, 0));
-            refuses("from " + room + ", hour", UNKNOWN, x -> x.cut(room, 0, 12));
-            refuses("to " + room + ", hour", UNKNOWN, x -> x.cut(0, room, -1));
-        }
+        unknownRooms(HourDoors::cut);
     }
 
     private static void cutOutside() {
         on(11, "OUTSIDE: hour (0 .. 11).");
-        for (int hour : beside(0, 11)) {
-            refuses("hour " + hour, OUTSIDE, x -> x.cut(0, 1, hour));
-            refuses("hour " + hour + " to itself", OUTSIDE, x -> x.cut(0, 0, hour));
-        }
+        outsideHours(HourDoors::cut);
         due("hour 11", furnished().cut(0, 0, 11), NONE);
     }
 
